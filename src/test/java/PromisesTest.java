@@ -390,6 +390,19 @@ public final class PromisesTest {
         }
         y.steps(1);
         same("unsettled", y.look(6), 1);
+        GasTown z = rich();
+        for (int n = 0; n < 15; n++) {
+            z.node(n, 1, 0);
+        }
+        z.thing(15, 0, 99, 0);
+        z.thing(15, 0, 99, 0);
+        z.steps(1);
+        same("fifteen pipes lose one each", z.at(15, 0), 25);
+        same("flow of the last", z.at(15, 1), 198);
+        same("flow of the first", z.at(1, 1), 198);
+        z.sees(15, 0);
+        same("one of fifteen", z.find(1), 15);
+        same("the last", z.find(25), 1);
         same("pressure behind the 12th", y.at(1, 0), 40);
         same("they take by it", y.at(1, 1), 594);
     }
@@ -552,7 +565,7 @@ public final class PromisesTest {
         x.thing(0, 0, 10, 0);
         x.thing(0, 2, 10, 0);
         x.thing(0, 0, 20, 0);
-        tell(x, 0, 0, "price 3 when hour < 10; price 99999;");
+        tell(x, 0, 0, "price 3 + short when hour < 10; price 99999;");
         tell(x, 1, 1, "price 0 - 5;");
         same("a slot", x.read(1), -1);
         same("none", x.read(3), -1);
@@ -668,7 +681,9 @@ public final class PromisesTest {
         same("too much", x.sell(301, 1), -1);
         same("left", x.sell(100, 99), 200);
         same("sold", x.look(11), 9900);
-        same("the rest", x.sell(200, 0), 0);
+        same("one", x.sell(1, 1), 199);
+        same("sold", x.look(11), 9901);
+        same("the rest", x.sell(199, 0), 0);
         same("coke", x.look(8), 0);
     }
 
@@ -686,6 +701,11 @@ public final class PromisesTest {
         no("21", x.end(21));
         yes("20", x.end(20));
         yes("19", x.end(19));
+        GasTown y = new GasTown();
+        yes("an empty tape", y.end(0));
+        same("feed", y.feed(0, 0, 0, 0, 0), 20);
+        yes("nothing left", y.end(0));
+        same("feed", y.feed(0, 0, 0, 0, 0), 20);
         no("20", x.end(20));
         promise = "promise 24";
         same("a line", x.act(0, 0), 1);
@@ -751,6 +771,14 @@ public final class PromisesTest {
         fails("Price 1;", 1, 0);
         fails("pricex 1;", 1, 0);
         fails("priceX 1;", 1, 0);
+        fails("pricez 1;", 1, 0);
+        fails("pricea 1;", 1, 0);
+        fails("priceZ 1;", 1, 0);
+        fails("priceA 1;", 1, 0);
+        fails("price{1;", 1, 5);
+        fails("price[1;", 1, 5);
+        fails("price@1;", 1, 5);
+        fails("price`1;", 1, 5);
         fails("price 100000;", 1, 6);
         fails("price 1 2;", 1, 8);
         fails("price 1hour;", 1, 7);
@@ -1036,6 +1064,20 @@ public final class PromisesTest {
         for (int i = 1; i < 9; i++) {
             same("as late as can be " + i, y.best(0, 9, i), i == 6 ? 1 : 0);
         }
+        GasTown z = new GasTown();
+        z.holder(9999);
+        z.coal(1, 10, 0, 0);
+        z.buy(0, 99, 0);
+        z.buy(1, 1, 0);
+        z.bench();
+        z.bench();
+        z.thing(0, 3, 10, 0);
+        z.hands(3);
+        same("at once", z.best(0, 9, 1), 1);
+        z.charge(1, 1, 1);
+        same("the hands of now are done with", z.best(0, 9, 0), -1);
+        z.hands(6);
+        same("hands for two", z.best(0, 9, 1), 1);
         y.charge(1, 0, 1);
         y.hands(0);
         same("none can always come", y.best(0, 9, 0), -1);
