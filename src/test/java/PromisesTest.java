@@ -539,7 +539,7 @@ public final class PromisesTest {
         y.thing(0, 0, 4, 0);
         y.steps(1);
         same("without a due", y.look(7), 0);
-        tell(y, 0, 0, "pressure 40;");
+        tell(y, 0, 0, "pressure 40 + short;");
         y.steps(1);
         same("at the due", y.look(7), 0);
         tell(y, 0, 0, "pressure 99;");
@@ -906,10 +906,14 @@ public final class PromisesTest {
         same("lacks two", x.tries(12), 3000);
         same("lacks fourteen", x.tries(0), 99999);
         same("fines", x.look(12), 102999);
+        tell(x, 0, 0, "candles 14 + short; fine 8;");
+        same("at the due nothing lacks", x.tries(14), 0);
+        same("below it", x.tries(13), 8);
+        same("fines", x.look(12), 103007);
         tell(x, 0, 0, "candles 14; fine 0 - 9;");
         same("below 0", x.tries(3), 0);
         same("nothing is added", x.tries(100), -1);
-        same("fines", x.look(12), 102999);
+        same("fines", x.look(12), 103007);
     }
 
     private static void shares() {
@@ -919,7 +923,7 @@ public final class PromisesTest {
         x.read(0);
         x.steps(4);
         x.read(0);
-        tell(x, 0, 0, "price 100; dividend 12; candles 5; fine 7;");
+        tell(x, 0, 0, "price 100; dividend 12 + short; candles 5; fine 7;");
         same("gain", x.share(0), 4000);
         same("may", x.share(1), 12);
         same("can", x.share(2), 40);
@@ -937,6 +941,12 @@ public final class PromisesTest {
         same("paid", x.share(3), 0);
         x.right(0, 1, 41);
         same("put right", x.share(0), 93);
+        x.right(0, 1, 47);
+        same("put right", x.share(0), 693);
+        same("paid by 100", x.share(3), 6);
+        x.right(0, 1, 46);
+        same("600 is not there", x.share(3), 5);
+        x.right(0, 1, 41);
         same("what 4", x.share(4), -1);
         same("what -1", x.share(-1), -1);
         tell(x, 0, 0, "price 100; dividend 0 - 3;");
@@ -1232,6 +1242,14 @@ public final class PromisesTest {
         y.thing(1, 3, 99, 0);
         y.thing(0, 1, 9, 0);
         same("a leak never burns", y.choice(99, 0, 1), 1 + 1);
+        y.thing(0, 0, 4, 0);
+        same("a thing that wants 1 burns", y.choice(99, 0, 1), 3);
+        y.thing(0, 0, 3, 0);
+        same("a thing that wants nothing does not", y.choice(99, 0, 1), 3);
+        y.gate(20);
+        same("20 is enough at the gate", y.choice(0, 0, 1), 2);
+        y.gate(19);
+        same("19 is too little", y.choice(0, 0, 1), 0);
     }
 
     private static void look() {
