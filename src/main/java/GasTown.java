@@ -1157,13 +1157,14 @@ public final class GasTown {
         static final int BRACKET = 3;
         static final int RANK_OF_ALL = 1;
 
-        private final int[] text;
+        private int[] text = new int[0];
         private int size;
         private int spot;
         private int kind;
         private int value;
         private int start;
-        private Act out;
+        // what the text is read into: an act that is not told
+        private Act out = new Act();
         private int next;
         private int side;
         // signs that wait for what stands behind them, the brackets among them
@@ -1173,16 +1174,11 @@ public final class GasTown {
         int fault;
         int place;
 
-        Parser(int[] aText, Act first) {
-            text = aText;
-            out = first;
-        }
-
         /** Whether the text has no fault. */
-        boolean readInto(Act act, int aSize) {
-            out = act;
-            out.clear();
+        boolean reads(int[] aText, int aSize) {
+            text = aText;
             size = Math.min(aSize, text.length);
+            out.clear();
             spot = 0;
             fault = 0;
             place = NONE;
@@ -1196,6 +1192,13 @@ public final class GasTown {
                 fail(FAULT_MISPLACED);
             }
             return fault == 0;
+        }
+
+        /** Gives what was read away for an act that is told no more. */
+        Act swap(Act old) {
+            Act read = out;
+            out = old;
+            return read;
         }
 
         private void fail(int what) {
@@ -1504,8 +1507,7 @@ public final class GasTown {
         private final Act[] acts = new Act[ACTS];
         // hour, day, fog, price, short
         private final int[] asked = new int[ASKED];
-        private Act spare = new Act();
-        private final Parser parser;
+        private final Parser parser = new Parser();
         int size;
         int fault;
         int faultPlace = NONE;
@@ -1517,7 +1519,6 @@ public final class GasTown {
             for (int a = 0; a < ACTS; a++) {
                 acts[a] = new Act();
             }
-            parser = new Parser(tape, spare);
         }
 
         void store(int four) {
@@ -1536,14 +1537,12 @@ public final class GasTown {
             if (n < 0 || n >= ACTS || !within(day, 0, LAST_DAY)) {
                 return NONE;
             }
-            if (!parser.readInto(spare, length)) {
+            if (!parser.reads(tape, length)) {
                 fault = parser.fault;
                 faultPlace = parser.place;
                 return NONE;
             }
-            Act old = acts[n];
-            acts[n] = spare;
-            spare = old;
+            acts[n] = parser.swap(acts[n]);
             acts[n].told = true;
             acts[n].day = day;
             return acts[n].lines;

@@ -368,7 +368,7 @@ public final class ActsTest {
         GasTown x = new GasTown();
         Town y = new Town();
         int faults = 0;
-        for (int i = 0; i < 12; i++) {
+        for (int i = 0; i < 5; i++) {
             String text = below(3) == 0 ? broken(text()) : text();
             int act = below(4);
             int day = below(4);
@@ -404,7 +404,7 @@ public final class ActsTest {
 
     public static void main(String[] args) {
         int faults = 0;
-        for (int i = 0; i < 3000 && wrong < 20; i++) {
+        for (int i = 0; i < 7000 && wrong < 20; i++) {
             faults += oneTown();
         }
         if (faults < 3000) {

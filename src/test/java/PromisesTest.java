@@ -1,44 +1,5 @@
 /** Each promise of the document by hand: what is ordinary, the edges, and what can't be. */
-public final class PromisesTest {
-    private static int wrong = 0;
-    private static String promise = "";
-
-    private static void same(String what, long got, long due) {
-        if (got != due) {
-            wrong++;
-            System.out.println(promise + ": " + what + " answered " + got + ", due is " + due);
-        }
-    }
-
-    private static void yes(String what, boolean got) {
-        same(what, got ? 1 : 0, 1);
-    }
-
-    private static void no(String what, boolean got) {
-        same(what, got ? 1 : 0, 0);
-    }
-
-    /** Puts a text on the tape, which is empty. */
-    static void tape(GasTown x, String text) {
-        for (int i = 0; i < text.length(); i += 20) {
-            x.feed(four(text, i), four(text, i + 4), four(text, i + 8), four(text, i + 12), four(text, i + 16));
-        }
-        x.end(text.length());
-    }
-
-    private static int four(String text, int from) {
-        int sum = 0;
-        for (int i = from; i < from + 4; i++) {
-            sum = sum << 8 | (i < text.length() ? text.charAt(i) : 32);
-        }
-        return sum;
-    }
-
-    static int tell(GasTown x, int act, int day, String text) {
-        tape(x, text);
-        return x.act(act, day);
-    }
-
+public final class PromisesTest extends Check {
     private static void fails(String text, int fault, int place) {
         GasTown x = new GasTown();
         same("act of " + text, tell(x, 0, 0, text), -1);
@@ -57,25 +18,6 @@ public final class PromisesTest {
         GasTown x = new GasTown();
         same("act of " + expression, tell(x, 0, 0, "fine " + expression + ";"), 1);
         return x.due(3, 0, 5, 0);
-    }
-
-    /** A town with a full holder: nothing can be dark. */
-    static GasTown rich() {
-        GasTown x = new GasTown();
-        x.holder(99999);
-        x.hands(30);
-        x.coal(0, 200, 0, 0);
-        x.buy(0, 9999, 0);
-        for (int b = 0; b < 6; b++) {
-            x.bench();
-            x.charge(b, 0, 9);
-        }
-        x.steps(16);
-        for (int b = 0; b < 6; b++) {
-            x.charge(b, 0, 9);
-        }
-        x.steps(16);
-        return x;
     }
 
     public static void main(String[] args) {
@@ -103,16 +45,13 @@ public final class PromisesTest {
         find();
         choice();
         look();
-        System.out.println(wrong == 0 ? "all promises hold" : wrong + " answers are wrong");
-        if (wrong != 0) {
-            System.exit(1);
-        }
+        end();
     }
 
     private static void newObject() {
-        promise = "promise 1";
+        says(1, "by hand");
         GasTown x = new GasTown();
-        same("NONE", GasTown.NONE, -1);
+        none("NONE", GasTown.NONE);
         for (int what = 0; what < 16; what++) {
             same("look " + what, x.look(what), what == 14 ? 1 : 0);
         }
@@ -131,7 +70,7 @@ public final class PromisesTest {
     }
 
     private static void works() {
-        promise = "promise 2";
+        says(2, "by hand");
         GasTown x = new GasTown();
         no("coal 3", x.coal(3, 100, 0, 0));
         no("coal -1", x.coal(-1, 100, 0, 0));
@@ -143,7 +82,7 @@ public final class PromisesTest {
         no("tar -1", x.coal(1, 100, 0, -1));
         yes("greatest", x.coal(1, 200, 80, 20));
         yes("least", x.coal(2, 10, 0, 0));
-        promise = "promise 3";
+        says(3, "by hand");
         same("no coal", x.buy(3, 1, 1), -1);
         same("tons 0", x.buy(0, 0, 1), -1);
         same("tons 10000", x.buy(0, 10000, 1), -1);
@@ -156,14 +95,14 @@ public final class PromisesTest {
         same("others", x.buy(1, 5, 0), 25);
         same("third", x.buy(2, 1, 0), 1);
         same("spent", x.look(10), 9999L * 999 + 40);
-        promise = "promise 5";
+        says(5, "by hand");
         same("no bench", x.charge(0, 0, 1), -1);
-        promise = "promise 4";
+        says(4, "by hand");
         for (int b = 0; b < 6; b++) {
             same("bench", x.bench(), b);
         }
         same("seventh", x.bench(), -1);
-        promise = "promise 5";
+        says(5, "by hand");
         same("bench 6", x.charge(6, 0, 1), -1);
         same("bench -1", x.charge(-1, 0, 1), -1);
         same("coal 3", x.charge(0, 3, 1), -1);
@@ -176,7 +115,7 @@ public final class PromisesTest {
         same("not cold", x.charge(0, 1, 1), -1);
         same("second", x.charge(1, 2, 1), 10);
         same("no hands", x.charge(2, 0, 1), -1);
-        promise = "promise 6";
+        says(6, "by hand");
         no("-1 hands", x.hands(-1));
         no("31 hands", x.hands(31));
         yes("8 hands", x.hands(8));
@@ -186,11 +125,11 @@ public final class PromisesTest {
         yes("0 hands", x.hands(0));
         same("none", x.charge(3, 0, 1), -1);
         yes("30 hands", x.hands(30));
-        promise = "promise 2";
+        says(2, "by hand");
         yes("later numbers", x.coal(1, 10, 1, 1));
         x.holder(99999);
         int[] parts = {1, 3, 6, 10, 15, 21, 28, 36, 44, 51, 57, 62, 66, 69, 71, 72};
-        promise = "promise 17";
+        says(17, "by hand");
         for (int i = 0; i < 16; i++) {
             same("burning", x.look(15), 3);
             same("step", x.steps(1), i + 1);
@@ -199,7 +138,7 @@ public final class PromisesTest {
         }
         same("cold", x.look(15), 0);
         same("tar", x.look(9), 7 * 20 + 5);
-        promise = "promise 5";
+        says(5, "by hand");
         x.hands(6);
         same("again", x.charge(0, 1, 9), 90);
         same("again", x.charge(1, 1, 9), 90);
@@ -209,7 +148,7 @@ public final class PromisesTest {
     }
 
     private static void holderAndSky() {
-        promise = "promise 7";
+        says(7, "by hand");
         GasTown x = new GasTown();
         no("-1", x.holder(-1));
         no("100000", x.holder(100000));
@@ -231,7 +170,7 @@ public final class PromisesTest {
         yes("more", x.holder(400));
         same("level", x.look(1), 300);
 
-        promise = "promise 8";
+        says(8, "by hand");
         no("39", x.round(39, 28));
         no("81", x.round(81, 28));
         no("9", x.round(64, 9));
@@ -257,7 +196,7 @@ public final class PromisesTest {
         y.steps(12);
         same("12 of the next day", y.of(0, 0), 0);
 
-        promise = "promise 9";
+        says(9, "by hand");
         no("day -1", y.fog(-1, 0));
         no("day 42", y.fog(42, 0));
         no("fog -1", y.fog(0, -1));
@@ -273,7 +212,7 @@ public final class PromisesTest {
     }
 
     private static void net() {
-        promise = "promise 10";
+        says(10, "by hand");
         GasTown x = new GasTown();
         no("-1", x.gate(-1));
         no("100", x.gate(100));
@@ -284,7 +223,7 @@ public final class PromisesTest {
         same("of the last step", x.at(0, 0), 99);
         x.steps(1);
         same("pressure", x.at(0, 0), 0);
-        promise = "promise 11";
+        says(11, "by hand");
         same("parent 1", x.node(1, 1, 0), -1);
         same("parent -1", x.node(-1, 1, 0), -1);
         same("resistance 0", x.node(0, 0, 0), -1);
@@ -297,7 +236,7 @@ public final class PromisesTest {
         }
         same("sixteenth", x.node(0, 1, 1), -1);
         same("nodes", x.look(14), 16);
-        promise = "promise 12";
+        says(12, "by hand");
         no("gate", x.water(0, true));
         no("16", x.water(16, true));
         no("-1", x.water(-1, true));
@@ -307,7 +246,7 @@ public final class PromisesTest {
         same("water", x.at(15, 2), 1);
         yes("no water", x.water(15, false));
         same("no water", x.at(15, 2), 0);
-        promise = "promise 13";
+        says(13, "by hand");
         same("node 16", x.thing(16, 0, 1, 0), -1);
         same("node -1", x.thing(-1, 0, 1, 0), -1);
         same("kind -1", x.thing(0, -1, 1, 0), -1);
@@ -327,7 +266,7 @@ public final class PromisesTest {
     }
 
     private static void settling() {
-        promise = "settling";
+        says(0, "settling");
         GasTown x = rich();
         same("level", x.look(1), 21600);
         x.node(0, 9, 5);
@@ -408,7 +347,7 @@ public final class PromisesTest {
     }
 
     private static void dark() {
-        promise = "dark";
+        says(0, "dark");
         GasTown x = new GasTown();
         x.holder(1000);
         x.buy(0, 9, 0);
@@ -439,7 +378,7 @@ public final class PromisesTest {
     }
 
     private static void thingsAndCoins() {
-        promise = "promise 30";
+        says(30, "by hand");
         GasTown x = new GasTown();
         x.thing(0, 0, 11, 0);
         x.thing(0, 2, 99, 0);
@@ -462,7 +401,7 @@ public final class PromisesTest {
         same("no thing -1", x.of(-1, 0), -1);
         same("no what 5", x.of(0, 5), -1);
         same("no what -1", x.of(0, -1), -1);
-        promise = "promise 14";
+        says(14, "by hand");
         no("4", x.cut(4, true));
         no("-1", x.cut(-1, true));
         no("it is so", x.cut(0, false));
@@ -472,7 +411,7 @@ public final class PromisesTest {
         same("cut leak", x.of(2, 0), 0);
         yes("back", x.cut(0, false));
         same("back", x.of(0, 0), 2);
-        promise = "promise 15";
+        says(15, "by hand");
         same("a house", x.coin(0, 1), -1);
         same("a lamp", x.coin(3, 1), -1);
         same("none", x.coin(9, 1), -1);
@@ -482,7 +421,7 @@ public final class PromisesTest {
         same("one", x.coin(1, 1), 50);
         same("99", x.coin(1, 99), 5000);
         same("credit of a house", x.of(0, 3), 0);
-        promise = "promise 30";
+        says(30, "by hand");
         GasTown y = rich();
         y.thing(0, 2, 60, 0);
         y.thing(0, 0, 10, 0);
@@ -500,7 +439,7 @@ public final class PromisesTest {
         same("took in all", y.of(0, 4), 80);
         same("a house took half", y.of(1, 1), 5);
         same("meter", y.of(1, 2), 15);
-        promise = "promise 16";
+        says(16, "by hand");
         no("a slot", y.frost(0, true));
         no("none", y.frost(2, true));
         no("it is so", y.frost(1, false));
@@ -515,7 +454,7 @@ public final class PromisesTest {
     }
 
     private static void stepsAndFails() {
-        promise = "promise 17";
+        says(17, "by hand");
         GasTown x = new GasTown();
         same("0", x.steps(0), -1);
         same("97", x.steps(97), -1);
@@ -527,7 +466,7 @@ public final class PromisesTest {
         same("3999", x.steps(63), 3999);
         same("no more", x.steps(1), -1);
         same("now", x.look(0), 3999);
-        promise = "fails";
+        says(0, "fails");
         GasTown y = rich();
         y.node(0, 1, 0);
         y.node(0, 1, -9);
@@ -560,7 +499,7 @@ public final class PromisesTest {
     }
 
     private static void readings() {
-        promise = "promise 18";
+        says(18, "by hand");
         GasTown x = rich();
         x.thing(0, 0, 10, 0);
         x.thing(0, 2, 10, 0);
@@ -579,7 +518,7 @@ public final class PromisesTest {
         same("frozen", x.read(0), 3);
         x.steps(6);
         same("frozen", x.read(0), 4);
-        promise = "promise 20";
+        says(20, "by hand");
         same("step", x.bill(0, 0, 32, 0), 32);
         same("number", x.bill(0, 0, 32, 1), 0);
         same("not frozen", x.bill(0, 0, 32, 2), 0);
@@ -624,7 +563,7 @@ public final class PromisesTest {
         y.read(0);
         y.read(0);
         same("frozen behind 0", y.bill(0, 1, 0, 3), 0);
-        promise = "promise 18";
+        says(18, "by hand");
         for (int i = 2; i < 200; i++) {
             same("in all", y.read(i % 2), i % 2 == 0 ? i / 2 + 1 : i / 2 - 1);
         }
@@ -633,7 +572,7 @@ public final class PromisesTest {
     }
 
     private static void rights() {
-        promise = "promise 19";
+        says(19, "by hand");
         GasTown x = rich();
         x.thing(0, 0, 10, 0);
         x.read(0);
@@ -647,7 +586,7 @@ public final class PromisesTest {
         no("below 0", x.right(0, 1, -1));
         no("too much", x.right(0, 1, 1000000));
         yes("right", x.right(0, 1, 70));
-        promise = "promise 20";
+        says(20, "by hand");
         same("right now", x.bill(0, 1, 40, 1), 70);
         same("not then", x.bill(0, 1, 39, 1), 40);
         same("units", x.bill(0, 1, 40, 3), 70);
@@ -660,7 +599,7 @@ public final class PromisesTest {
         same("then", x.bill(0, 1, 40, 1), 50);
         same("now", x.bill(0, 1, 41, 1), 999999);
         same("never below 0", x.bill(0, 2, 41, 3), 0);
-        promise = "promise 19";
+        says(19, "by hand");
         for (int i = 3; i < 100; i++) {
             yes("a hundred", x.right(0, 0, 0));
         }
@@ -668,7 +607,7 @@ public final class PromisesTest {
     }
 
     private static void yard() {
-        promise = "promise 21";
+        says(21, "by hand");
         GasTown x = new GasTown();
         same("nothing to sell", x.sell(1, 1), -1);
         x.buy(0, 5, 0);
@@ -688,7 +627,7 @@ public final class PromisesTest {
     }
 
     private static void tapeAndEnd() {
-        promise = "promise 22";
+        says(22, "by hand");
         GasTown x = new GasTown();
         for (int i = 1; i <= 30; i++) {
             same("feed", x.feed(0x20202020, 0x20202020, 0x20202020, 0x20202020, 0x20202020), 20 * i);
@@ -696,7 +635,7 @@ public final class PromisesTest {
         same("31st", x.feed(0, 0, 0, 0, 0), -1);
         same("600 blanks are an act", x.act(0, 0), 0);
         same("empty again", x.feed(0x70726963, 0x65203720, 0x3b202020, 0x20202020, 0x20200a3b), 20);
-        promise = "promise 23";
+        says(23, "by hand");
         no("-1", x.end(-1));
         no("21", x.end(21));
         yes("20", x.end(20));
@@ -707,7 +646,7 @@ public final class PromisesTest {
         yes("nothing left", y.end(0));
         same("feed", y.feed(0, 0, 0, 0, 0), 20);
         no("20", x.end(20));
-        promise = "promise 24";
+        says(24, "by hand");
         same("a line", x.act(0, 0), 1);
         same("due", x.due(2, 0, 0, 0), 7);
         tape(x, "price 8;");
@@ -722,7 +661,7 @@ public final class PromisesTest {
         same("a fault", tell(x, 0, 0, "price ;"), -1);
         no("the tape is empty", x.end(1));
         same("as it was", x.due(2, 0, 0, 0), 7);
-        promise = "promise 25";
+        says(25, "by hand");
         same("fault", x.fault(0), 1);
         same("place", x.fault(1), 6);
         same("no what", x.fault(2), -1);
@@ -730,7 +669,7 @@ public final class PromisesTest {
         same("no act", tell(x, 4, 0, "price ;"), -1);
         same("no fault", x.fault(0), 0);
         same("no place", x.fault(1), -1);
-        promise = "promise 24";
+        says(24, "by hand");
         same("day 41", tell(x, 3, 41, "price 9;fine 1;"), 2);
         same("last day", x.due(2, 41 * 96, 0, 0), 9);
         same("the day ahead", x.due(2, 41 * 96 - 1, 0, 0), 7);
@@ -739,7 +678,7 @@ public final class PromisesTest {
     }
 
     private static void grammar() {
-        promise = "promise 24";
+        says(24, "by hand");
         stands("", 0);
         stands(" \n ", 0);
         stands("pressure 1;candles 2;price 3;fine 4;dividend 5;", 5);
@@ -760,7 +699,7 @@ public final class PromisesTest {
     }
 
     private static void faults() {
-        promise = "promise 25";
+        says(25, "by hand");
         fails("price", 1, 5);
         fails("price \n ", 1, 8);
         fails("price 1", 1, 7);
@@ -828,7 +767,7 @@ public final class PromisesTest {
     }
 
     private static void expressions() {
-        promise = "promise 26";
+        says(26, "by hand");
         same("left to right", priceBy("10 - 3 - 2"), 5);
         same("times first", priceBy("1 + 2 * 3 - 4 * 2"), -1);
         same("by and times", priceBy("7 / 2 * 3"), 9);
@@ -862,7 +801,7 @@ public final class PromisesTest {
     }
 
     private static void dues() {
-        promise = "promise 26";
+        says(26, "by hand");
         GasTown x = new GasTown();
         tell(x, 0, 2, "price 1; price 1; candles 1; candles 1; candles 2; fine 3;");
         tell(x, 1, 2, "price 2; dividend 7 when 1 < 0; pressure 1 when 0<1;");
@@ -893,7 +832,7 @@ public final class PromisesTest {
     }
 
     private static void tries() {
-        promise = "promise 27";
+        says(27, "by hand");
         GasTown x = new GasTown();
         same("-1", x.tries(-1), -1);
         same("100", x.tries(100), -1);
@@ -917,7 +856,7 @@ public final class PromisesTest {
     }
 
     private static void shares() {
-        promise = "promise 28";
+        says(28, "by hand");
         GasTown x = rich();
         x.thing(0, 0, 10, 0);
         x.read(0);
@@ -963,7 +902,7 @@ public final class PromisesTest {
     }
 
     private static void why() {
-        promise = "promise 31";
+        says(31, "by hand");
         GasTown x = rich();
         same("a rich town", x.why(0, 0), 0);
         GasTown y = new GasTown();
@@ -1027,7 +966,7 @@ public final class PromisesTest {
     }
 
     private static void best() {
-        promise = "promise 32";
+        says(32, "by hand");
         GasTown x = new GasTown();
         same("coal 3", x.best(3, 1, 0), -1);
         same("coal -1", x.best(-1, 1, 0), -1);
@@ -1096,7 +1035,7 @@ public final class PromisesTest {
     }
 
     private static void last() {
-        promise = "promise 33";
+        says(33, "by hand");
         GasTown x = new GasTown();
         same("none", x.last(), -1);
         x.thing(0, 0, 3, 0);
@@ -1139,7 +1078,7 @@ public final class PromisesTest {
     }
 
     private static void find() {
-        promise = "promise 34";
+        says(34, "by hand");
         GasTown x = new GasTown();
         no("no node", x.sees(1, 0));
         no("gate", x.sees(0, 1));
@@ -1149,7 +1088,7 @@ public final class PromisesTest {
         no("2", x.sees(1, 2));
         no("-2", x.sees(1, -2));
         no("-1", x.sees(-1, 0));
-        promise = "promise 35";
+        says(35, "by hand");
         same("nothing told", x.find(0), 0);
         same("the empty set", x.find(1), 1);
         same("in no set", x.find(11), 0);
@@ -1159,9 +1098,9 @@ public final class PromisesTest {
         same("what 14", x.find(14), -1);
         same("what -1", x.find(-1), -1);
         same("far", x.find(Integer.MIN_VALUE), -1);
-        promise = "promise 34";
+        says(34, "by hand");
         yes("no gas", x.sees(2, 0));
-        promise = "promise 35";
+        says(35, "by hand");
         same("one", x.find(0), 1);
         same("two sets", x.find(1), 2);
         same("in some", x.find(11), 1);
@@ -1186,7 +1125,7 @@ public final class PromisesTest {
     }
 
     private static void choice() {
-        promise = "promise 36";
+        says(36, "by hand");
         GasTown x = new GasTown();
         same("gate", x.work(0, 1, 1), -1);
         same("no node", x.work(1, 1, 1), -1);
@@ -1206,7 +1145,7 @@ public final class PromisesTest {
         same("work 1", x.work(1, 9, 5), 1);
         same("work 2", x.work(2, 1, 10), 2);
         same("work 3", x.work(1, 2, 10), 3);
-        promise = "promise 37";
+        says(37, "by hand");
         same("coin -1", x.choice(-1, 0, 0), -1);
         same("coin 10000", x.choice(10000, 0, 0), -1);
         same("step -1", x.choice(0, -1, 0), -1);
@@ -1225,7 +1164,7 @@ public final class PromisesTest {
         same("for twenty", x.choice(9999, 24, 2), 20);
         x.water(1, true);
         same("no work helps against water", x.choice(9999, 24, 0), 4);
-        promise = "promise 36";
+        says(36, "by hand");
         for (int i = 4; i < 8; i++) {
             same("work", x.work(1, 1, 999), i);
         }
@@ -1237,7 +1176,7 @@ public final class PromisesTest {
         y.thing(1, 0, 50, 0);
         y.work(1, 1, 1);
         y.work(1, 9, 1);
-        promise = "promise 37";
+        says(37, "by hand");
         same("not both", y.choice(99, 24, 0), 1);
         y.thing(1, 3, 99, 0);
         y.thing(0, 1, 9, 0);
@@ -1253,7 +1192,7 @@ public final class PromisesTest {
     }
 
     private static void look() {
-        promise = "promise 38";
+        says(38, "by hand");
         GasTown x = rich();
         same("now", x.look(0), 32);
         same("level", x.look(1), 21600);
