@@ -21,6 +21,7 @@ public final class ActsEdgesTest extends Check {
         open();
         firstByPlace();
         wholeTape();
+        againAndAgain();
         ints();
         order();
         conditions();
@@ -535,6 +536,29 @@ public final class ActsEdgesTest extends Check {
         none("due", v.due(3, 0, 0, 1));
     }
 
+    private static void againAndAgain() {
+        says(24, "each text by itself, however many were told ahead of it");
+        GasTown x = new GasTown();
+        for (int i = 0; i < 12; i++) {
+            same("24 lines", tell(x, 0, 0, times("price 10 + 20 - 30 * 4/5;", 23) + "fine " + (i + 30) + " * 2 / 2;"), 24);
+            same("price", x.due(2, 0, 0, 0), 6);
+            same("fine", x.due(3, 0, 0, 0), i + 30);
+        }
+        says(25, "a FAULT leaves nothing to the next text");
+        GasTown y = new GasTown();
+        String[] broken = {OPEN7 + "(", OPEN7 + "not 1<2", "fine 1 when not not not not not", "fine 1 +", "fine 1 when (1<2 and",
+            times("fine 1;", 20) + "x", "fine 12345", "fine 1 / 0;"};
+        for (String text : broken) {
+            none(text, tell(y, 0, 0, text));
+            same("eight open", tell(y, 0, 0, OPEN7 + "(1<2))))))));"), 1);
+            none(text, tell(y, 0, 0, text));
+            same("24 lines", tell(y, 0, 0, times("fine 1;", 24)), 24);
+            none(text, tell(y, 0, 0, text));
+            same("one line", tell(y, 0, 0, "fine 2 + 3 when not 2<1;"), 1);
+            same("its number", y.due(3, 0, 0, 0), 5);
+        }
+    }
+
     private static void ints() {
         says(0, "Ints, which wrap");
         is("99999 * 99999", 99999 * 99999);
@@ -584,9 +608,9 @@ public final class ActsEdgesTest extends Check {
         says(0, "a line tells, if its B is so or it has none");
         String[] so = {"1<2", "2=2", "2>1", "not 2<1", "1<2 or 2<1", "2<1 or 1<2", "1<2 and 1<2", "1<2 or 1<2 and 2<1",
             "2<1 and 2<1 or 1<2", "not 2<1 and 1<2", "not (1<2 and 2<1)", "not 1<2 or 1<2", "not not 1<2", "(1<2 or 1<2) and 1<2",
-            "0-1 < 0", "1+1=2", "short=5", "short*2>9", "hour=0 and day=0 and fog=0 and price=0",
+            "0-1 < 0", "1+1=2", "2=2 and 1<2", "2>1 and 2=2", "1<2 and 2>1", "not 1=2", "not 1>2", "2>1 or 2=1", "short=5", "short*2>9", "hour=0 and day=0 and fog=0 and price=0",
             "32768*65536 < 0", "0 - 32768*65536 < 32767", "2<1 or 2<1 or 1<2"};
-        String[] notSo = {"2<1", "2<2", "1=2", "1>2", "2>2", "not 1<2", "1<2 and 2<1", "2<1 and 1<2", "2<1 or 2<1",
+        String[] notSo = {"not 2=2", "not 2>1", "1=2 and 2=2", "1=2 or 1>2", "2<1", "2<2", "1=2", "1>2", "2>2", "not 1<2", "1<2 and 2<1", "2<1 and 1<2", "2<1 or 2<1",
             "(1<2 or 1<2) and 2<1", "not 1<2 and 1<2", "not (1<2 or 2<1)", "not not 2<1", "not not not 1<2", "short=4",
             "2<1 and 1<2 or 2<1", "not 1<2 or 2<1", "1<2 and 1<2 and 2<1"};
         for (String test : so) {
@@ -700,6 +724,17 @@ public final class ActsEdgesTest extends Check {
             GasTown x = new GasTown();
             tell(x, 0, 0, acts[i]);
             same(acts[i], x.due(3, 0, 5, 2), due[i]);
+        }
+        says(0, "another such line of it: not of another SUBJECT that was asked ahead of it");
+        GasTown y = new GasTown();
+        tell(y, 0, 0, "fine 1; fine 2; price 3; price 3; pressure 4; pressure 5 when short = 1;");
+        for (int i = 0; i < 2; i++) {
+            same("fine", y.due(3, 0, 0, 2), 1);
+            same("price", y.due(2, 0, 0, 2), 0);
+            same("fine", y.due(3, 0, 0, 2), 1);
+            same("dividend", y.due(4, 0, 0, 2), 0);
+            same("pressure with 1", y.due(0, 0, 1, 2), 1);
+            same("pressure with 0", y.due(0, 0, 0, 2), 0);
         }
         says(0, "another such line of it: not of another ACT");
         GasTown x = new GasTown();

@@ -454,22 +454,26 @@ public final class BooksEdgesTest extends Check {
         x.bench();
         x.charge(0, 0, 9);
         x.steps(16);
-        x.sell(1, 99);
-        same("gain", x.share(0), 99);
-        same("99 by 100", x.share(2), 0);
-        x.sell(1, 1);
-        same("100 by 100", x.share(2), 1);
-        x.sell(1, 99);
-        same("199 by 100", x.share(2), 1);
-        x.sell(1, 1);
-        same("200 by 100", x.share(2), 2);
+        tell(x, 0, 0, "dividend 50;");
+        int[][] sold = {{99, 0}, {1, 1}, {99, 1}, {1, 2}};
+        int gain = 0;
+        for (int[] s : sold) {
+            x.sell(1, s[0]);
+            gain += s[0];
+            same("gain", x.share(0), gain);
+            same(gain + " by 100", x.share(2), s[1]);
+            same("paid", x.share(3), s[1]);
+        }
         x.buy(0, 1, 201);
         same("gain", x.share(0), -1);
         same("-1 by 100", x.share(2), 0);
+        same("paid", x.share(3), 0);
         x.buy(0, 1, 999);
         same("-1000 by 100", x.share(2), 0);
+        same("paid", x.share(3), 0);
         x.sell(20, 90);
         same("gain", x.share(0), 800);
+        tell(x, 0, 0, "");
         says(0, "MAY: THE DUE of dividend NOW (0 at least, 0 without)");
         same("without", x.share(1), 0);
         says(0, "PAID would be the lesser one");

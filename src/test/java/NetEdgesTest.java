@@ -13,6 +13,7 @@ public final class NetEdgesTest extends Check {
         pressures();
         taking();
         flows();
+        longWay();
         sweeps();
         darkness();
         darkKeeps();
@@ -424,6 +425,30 @@ public final class NetEdgesTest extends Check {
         same("flow of the gate", x.at(0, 1), 0 + 1 + 20 + 32);
     }
 
+    private static void longWay() {
+        says(0, "at its NODE and at those behind it, up to the 15th");
+        GasTown x = rich();
+        for (int n = 1; n <= 15; n++) {
+            x.node(n - 1, 1, 0);
+            x.thing(n, 0, n, 0);
+        }
+        tell(x, 0, 0, "pressure 99;");
+        x.steps(1);
+        for (int n = 1; n <= 15; n++) {
+            same("flow of " + n, x.at(n, 1), 120 - n * (n - 1) / 2);
+        }
+        same("flow of the gate", x.at(0, 1), 120);
+        says(0, "Each NODE counts as a FAIL");
+        same("fifteen", x.look(7), 15);
+        x.water(1, true);
+        x.steps(1);
+        for (int n = 1; n <= 15; n++) {
+            same("behind water", x.why(n, 1), 1);
+            same("pressure", x.at(n, 0), 0);
+        }
+        same("thirty", x.look(7), 30);
+    }
+
     private static void sweeps() {
         says(0, "The SWEEPS end behind the first one in which all PRESSURES are as in the SWEEP ahead (it SETTLED)");
         GasTown x = new GasTown();
@@ -474,6 +499,21 @@ public final class NetEdgesTest extends Check {
         u.steps(1);
         same("the second goes on", u.look(6), 1);
         same("as without the first", u.at(2, 0), w.at(1, 0));
+        says(0, "as in the SWEEP ahead: the first has none ahead of it, not the last STEP's");
+        GasTown t = rich();
+        t.node(0, 9, 0);
+        t.thing(1, 0, 50, 0);
+        t.thing(1, 3, 50, 0);
+        t.cut(1, true);
+        t.gate(30);
+        t.steps(1);
+        same("a house of 50", t.at(1, 0), 26);
+        t.cut(0, true);
+        t.cut(1, false);
+        t.steps(1);
+        same("a leak of 50 takes more in the second", t.at(1, 0), 25);
+        same("taken", t.at(1, 1), 62);
+        says(0, "or behind the 12th");
         int p = 0;
         int leak = 99 + 52;
         for (int sweep = 1; sweep <= 12; sweep++) {
@@ -812,6 +852,16 @@ public final class NetEdgesTest extends Check {
         x.steps(1);
         same("nearest to the gate", x.why(3, 1), 2);
         same("its own", x.why(2, 1), 2);
+        none("what -1", x.why(3, -1));
+        none("what 2", x.why(3, 2));
+        x.gate(10);
+        x.steps(1);
+        same("the long way", x.why(3, 1), 2);
+        same("the short way has none", x.why(1, 0), 3);
+        same("its own pipe", x.why(1, 1), 1);
+        none("what -1", x.why(1, -1));
+        x.gate(40);
+        x.steps(1);
         x.water(2, false);
         x.water(3, false);
         same("it had", x.why(2, 0), 2);
@@ -864,6 +914,27 @@ public final class NetEdgesTest extends Check {
         same("flow of 1: it loses 154 by 100", y.at(1, 1), 154);
         same("flow of 2: it loses 188 by 100", y.at(2, 1), 94);
         same("the nearest", y.why(2, 1), 1);
+        GasTown z = rich();
+        z.node(0, 1, 9);
+        z.node(1, 2, -9);
+        z.thing(2, 3, 99, 0);
+        z.thing(2, 3, 6, 0);
+        z.thing(1, 0, 40, 0);
+        z.gate(30);
+        z.steps(1);
+        same("flow of 1: it loses 139 by 100", z.at(1, 1), 139);
+        same("flow of 2: it loses 198 by 100", z.at(2, 1), 99);
+        same("the nearest", z.why(2, 1), 1);
+        says(31, "whose PIPE loses most");
+        GasTown w = rich();
+        w.node(0, 1, 9);
+        w.node(1, 2, -9);
+        w.thing(2, 3, 53, 0);
+        w.gate(29);
+        w.steps(1);
+        same("flow of 1: it loses 50 by 100", w.at(1, 1), 50);
+        same("flow of 2: it loses 100 by 100", w.at(2, 1), 50);
+        same("the farther one", w.why(2, 1), 2);
     }
 
     private static void whyNewNodes() {

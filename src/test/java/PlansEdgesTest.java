@@ -202,6 +202,16 @@ public final class PlansEdgesTest extends Check {
         y.hands(6);
         // the fourth step is short already, ahead of the second place
         plan("two benches", y, 1, 8, 2, 0, 0, 0, 0, 0, 0, 0);
+        // 145 are enough ahead of the second place, not behind it
+        GasTown v = leaky(145, 60);
+        noPlan("the bench is not COLD at the second place", v, 1, 8);
+        v.bench();
+        plan("the first again at the sixth", v, 1, 8, 1, 1, 0, 0, 0, 1, 0, 0);
+        // 80 are left of 160 behind the 16th step: four steps later they are gone
+        GasTown u = leaky(160, 50);
+        noPlan("the bench is not COLD at the fourth place", u, 1, 8);
+        u.bench();
+        plan("another at the fourth place", u, 1, 8, 1, 0, 0, 1, 0, 0, 0, 0);
         GasTown z = leaky(0, 60);
         for (int b = 1; b < 6; b++) {
             z.bench();

@@ -318,6 +318,10 @@ public final class StepsTest {
         same("meter", x.of(t, 2), thing.meter);
         same("credit", x.of(t, 3), thing.kind == 2 ? 50 * thing.coins - thing.all : 0);
         same("took in all", x.of(t, 4), thing.all);
+    }
+
+    private static void compareBills(GasTown x, Town y, int t) {
+        Thing thing = y.things.get(t);
         for (int j = 0; j < thing.readings.size(); j++) {
             int known = below(y.now + 1);
             int[] row = thing.readings.get(j);
@@ -346,6 +350,7 @@ public final class StepsTest {
         }
         for (int t = 0; t < y.things.size(); t++) {
             compareThing(x, y, t);
+            compareBills(x, y, t);
         }
     }
 
@@ -442,8 +447,12 @@ public final class StepsTest {
                 same("coin", x.coin(t, coins), thing.kind == 2 ? 50 * thing.coins - thing.all : -1);
                 break;
             case 3:
+                if (y.readings >= 12) {
+                    break;
+                }
                 same("read", x.read(t), thing.kind == 0 ? thing.readings.size() : -1);
                 if (thing.kind == 0) {
+                    y.readings++;
                     thing.readings.add(new int[] {y.now, thing.meter, thing.frozen ? 1 : 0});
                 }
                 break;
@@ -467,7 +476,7 @@ public final class StepsTest {
         same("act", x.act(0, 0), 2);
         y.capacity = 9000;
         x.holder(9000);
-        for (int i = 0; i < 48; i++) {
+        for (int i = 0; i < 46; i++) {
             switch (below(6)) {
                 case 0:
                     put(x, y);
@@ -506,11 +515,11 @@ public final class StepsTest {
 
     public static void main(String[] args) {
         int lively = 0;
-        for (int i = 0; i < 5000 && wrong < 20; i++) {
+        for (int i = 0; i < 8000 && wrong < 20; i++) {
             lively += oneTown();
         }
         System.out.println(lively + " lively towns");
-        same("lively", lively > 500 ? 1 : 0, 1);
+        same("lively", lively > 300 ? 1 : 0, 1);
         System.out.println(wrong == 0 ? "both towns agree" : wrong + " answers are wrong");
         if (wrong != 0) {
             System.exit(1);
