@@ -580,6 +580,9 @@ public final class ActsEdgesTest extends Check {
         same("the greatest", x.due(2, 0, Integer.MAX_VALUE, 0), Integer.MAX_VALUE);
         says(0, "/ goes towards 0");
         is("7 / 2", 3);
+        is("7 / 1", 7);
+        is("99999 / 99999", 1);
+        is("99998 / 99999", 0);
         is("0 - 7 / 2", -3);
         tell(x, 0, 0, "fine short / 2; candles short / 99999;");
         int[] shorts = {7, 1, 0, -1, -2, -3, -7, Integer.MAX_VALUE, Integer.MIN_VALUE};
@@ -610,7 +613,7 @@ public final class ActsEdgesTest extends Check {
             "2<1 and 2<1 or 1<2", "not 2<1 and 1<2", "not (1<2 and 2<1)", "not 1<2 or 1<2", "not not 1<2", "(1<2 or 1<2) and 1<2",
             "0-1 < 0", "1+1=2", "2=2 and 1<2", "2>1 and 2=2", "1<2 and 2>1", "not 1=2", "not 1>2", "2>1 or 2=1", "short=5", "short*2>9", "hour=0 and day=0 and fog=0 and price=0",
             "32768*65536 < 0", "0 - 32768*65536 < 32767", "2<1 or 2<1 or 1<2"};
-        String[] notSo = {"not 2=2", "not 2>1", "1=2 and 2=2", "1=2 or 1>2", "2<1", "2<2", "1=2", "1>2", "2>2", "not 1<2", "1<2 and 2<1", "2<1 and 1<2", "2<1 or 2<1",
+        String[] notSo = {"5 < 1 + 2", "2 > 9 - 4", "9 = 4 + 1", "7 < 2 * 3", "not 2=2", "not 2>1", "1=2 and 2=2", "1=2 or 1>2", "2<1", "2<2", "1=2", "1>2", "2>2", "not 1<2", "1<2 and 2<1", "2<1 and 1<2", "2<1 or 2<1",
             "(1<2 or 1<2) and 2<1", "not 1<2 and 1<2", "not (1<2 or 2<1)", "not not 2<1", "not not not 1<2", "short=4",
             "2<1 and 1<2 or 2<1", "not 1<2 or 2<1", "1<2 and 1<2 and 2<1"};
         for (String test : so) {
@@ -735,6 +738,12 @@ public final class ActsEdgesTest extends Check {
             same("dividend", y.due(4, 0, 0, 2), 0);
             same("pressure with 1", y.due(0, 0, 1, 2), 1);
             same("pressure with 0", y.due(0, 0, 0, 2), 0);
+        }
+        GasTown z = new GasTown();
+        tell(z, 0, 0, "fine 1; fine 2;");
+        for (int subject = 0; subject <= 4; subject++) {
+            same("fine", z.due(3, 0, 0, 2), 1);
+            same("subject " + subject, z.due(subject, 0, 0, 2), subject == 3 ? 1 : 0);
         }
         says(0, "another such line of it: not of another ACT");
         GasTown x = new GasTown();

@@ -595,6 +595,21 @@ public final class PlansEdgesTest extends Check {
         same("in none", x.find(11), 0);
         same("in all", x.find(12), 2);
         same("in all", x.find(13), 2);
+        says(35, "2 it is in all sets, 1 in some, 0 in none");
+        GasTown z = new GasTown();
+        z.node(0, 1, 0);
+        z.node(1, 1, 0);
+        z.node(1, 1, 0);
+        z.node(3, 1, 0);
+        z.sees(1, 1);
+        z.sees(2, 0);
+        z.sees(4, 0);
+        same("two", z.find(0), 2);
+        same("two sets", z.find(1), 2);
+        int[] due = {0, 2, 1, 1};
+        for (int n = 1; n <= 4; n++) {
+            same("pipe of " + n, z.find(10 + n), due[n - 1]);
+        }
         says(35, "what 1 how many sets");
         GasTown y = new GasTown();
         for (int i = 0; i < 5; i++) {
