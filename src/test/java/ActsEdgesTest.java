@@ -67,8 +67,8 @@ public final class ActsEdgesTest extends Check {
         yes("600 bytes", x.end(600));
         yes("581 bytes", x.end(581));
         none("601", x.feed(0, 0, 0, 0, 0));
-        yes("581 bytes still", x.end(581));
         no("582", x.end(582));
+        yes("581 bytes still", x.end(581));
         yes("580 bytes", x.end(580));
         same("600", feedBlanks(x), 600);
         same("nothing came of what was refused", x.act(0, 0), 0);

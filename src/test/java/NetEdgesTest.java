@@ -343,6 +343,19 @@ public final class NetEdgesTest extends Check {
         x.steps(1);
         says(0, "or its PARENT's PRESSURE is 0");
         same("a gate of 0", x.at(5, 0), 0);
+        says(0, "it is 0, if its PIPE has WATER");
+        x.gate(40);
+        x.water(5, true);
+        x.steps(1);
+        same("water, though it lies higher", x.at(5, 0), 0);
+        says(0, "and its HEIGHT less its PARENT's added, but never below 0");
+        x.gate(1);
+        x.node(0, 9, 9);
+        x.thing(6, 0, 99, 0);
+        x.steps(1);
+        // 34 are taken: 1 less 3 and 9 more
+        same("less than nothing, and 9", x.at(6, 0), 7);
+        same("flow", x.at(6, 1), 34);
         says(0, "its PARENT's less RESISTANCE times FLOW by 100");
         GasTown y = rich();
         y.node(0, 9, 0);
@@ -569,6 +582,15 @@ public final class NetEdgesTest extends Check {
         z.cut(1, true);
         z.steps(1);
         same("14 of 24", z.look(1), 10);
+        says(38, "5 DARK STEPS, 6 STEPS that did not SETTLE: one may be both");
+        GasTown v = new GasTown();
+        v.node(0, 9, 0);
+        v.thing(1, 3, 99, 0);
+        v.thing(1, 3, 52, 0);
+        v.gate(99);
+        v.steps(1);
+        same("dark", v.look(5), 1);
+        same("not settled", v.look(6), 1);
         says(0, "nobody wants anything, and nothing is there: not DARK");
         GasTown w = new GasTown();
         w.steps(5);
