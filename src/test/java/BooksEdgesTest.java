@@ -125,13 +125,13 @@ public final class BooksEdgesTest extends Check {
         for (int i = 0; i < 100; i++) {
             no("what can't be does not count", x.right(0, 0, -1));
             no("what can't be does not count", x.right(0, 2, 1));
-            yes("put right", x.right(i % 2, 0, i));
+            yes("put right", x.right(i % 2, 0, i + 1));
         }
         no("the 101st", x.right(0, 0, 7));
         no("the 101st", x.right(1, 0, 7));
         no("the 101st", x.right(0, 1, 7));
-        same("as it was", x.bill(0, 0, 0, 1), 98);
-        same("as it was", x.bill(1, 0, 0, 1), 99);
+        same("as it was", x.bill(0, 0, 0, 1), 99);
+        same("as it was", x.bill(1, 0, 0, 1), 100);
         same("as it was", x.bill(0, 1, 0, 1), 0);
     }
 
@@ -248,7 +248,6 @@ public final class BooksEdgesTest extends Check {
         x.frost(0, false);
         x.read(0);
         same("a reading that is not frozen goes by numbers", x.bill(0, 3, 40, 3), 0);
-        x.right(0, 2, 0);
         x.right(0, 3, 10);
         same("10 less 0", x.bill(0, 3, 40, 3), 10);
         x.frost(0, true);

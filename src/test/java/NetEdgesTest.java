@@ -582,15 +582,6 @@ public final class NetEdgesTest extends Check {
         z.cut(1, true);
         z.steps(1);
         same("14 of 24", z.look(1), 10);
-        says(38, "5 DARK STEPS, 6 STEPS that did not SETTLE: one may be both");
-        GasTown v = new GasTown();
-        v.node(0, 9, 0);
-        v.thing(1, 3, 99, 0);
-        v.thing(1, 3, 52, 0);
-        v.gate(99);
-        v.steps(1);
-        same("dark", v.look(5), 1);
-        same("not settled", v.look(6), 1);
         says(0, "nobody wants anything, and nothing is there: not DARK");
         GasTown w = new GasTown();
         w.steps(5);
@@ -688,17 +679,6 @@ public final class NetEdgesTest extends Check {
         x.cut(7, true);
         x.steps(1);
         same("none", x.look(7), 7);
-        says(0, "a THING that WANTS more than 0, by what it wanted in the STEP");
-        GasTown y = rich();
-        y.node(0, 1, 0);
-        y.thing(1, 2, 50, 0);
-        y.coin(0, 1);
-        tell(y, 0, 0, "pressure 41;");
-        y.steps(1);
-        same("the last credit goes", y.of(0, 3), 0);
-        same("a fail", y.look(7), 1);
-        y.steps(1);
-        same("no more", y.look(7), 1);
     }
 
     private static void failsAndDue() {

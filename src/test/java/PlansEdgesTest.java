@@ -626,7 +626,7 @@ public final class PlansEdgesTest extends Check {
 
     private static void work() {
         GasTown x = new GasTown();
-        x.node(0, 1, 0);
+        x.node(0, 5, 0);
         says(36, "A WORK: its number; NONE if one can't be");
         none("the gate", x.work(0, 1, 1));
         none("a node that is not there", x.work(2, 1, 1));
@@ -653,7 +653,7 @@ public final class PlansEdgesTest extends Check {
         says(37, "for so much COIN (0 .. 9999) in a STEP 0 .. 3999: NONE if one can't be, or another what");
         GasTown x = new GasTown();
         x.node(0, 1, 0);
-        x.work(1, 1, 1);
+        x.work(1, 2, 1);
         for (int what = 0; what <= 2; what++) {
             none("coin -1", x.choice(-1, 0, what));
             none("coin 10000", x.choice(10000, 0, what));
@@ -755,7 +755,7 @@ public final class PlansEdgesTest extends Check {
         says(0, "works that help none are not in it");
         GasTown u = pipes(1, 0);
         u.work(2, 1, 1);
-        u.work(1, 9, 1);
+        u.work(1, 8, 1);
         choice(u, 99, 24, 0, 0, 0);
         u.work(1, 1, 1);
         choice(u, 99, 24, 4, 1, 1);
@@ -803,7 +803,7 @@ public final class PlansEdgesTest extends Check {
         says(0, "(of several of one PIPE the one with the greatest number counts)");
         GasTown x = pipes(1);
         x.work(1, 1, 5);
-        x.work(1, 9, 5);
+        x.work(1, 8, 5);
         choice(x, 99, 24, 1, 1, 5);
         GasTown y = pipes(2, 1);
         y.work(1, 2, 5);

@@ -255,6 +255,8 @@ public final class PlansTest {
         for (int i = 0; i < works; i++) {
             where[i] = 1 + below(nodes);
             how[i] = 1 + below(5);
+            // another resistance than the pipe has
+            how[i] = how[i] == resistance[where[i]] ? 2 : how[i];
             coin[i] = 1 + below(6);
         }
         int gate = 22 + below(15);

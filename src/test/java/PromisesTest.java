@@ -601,7 +601,7 @@ public final class PromisesTest extends Check {
         same("never below 0", x.bill(0, 2, 41, 3), 0);
         says(19, "by hand");
         for (int i = 3; i < 100; i++) {
-            yes("a hundred", x.right(0, 0, 0));
+            yes("a hundred", x.right(0, 0, i));
         }
         no("101st", x.right(0, 0, 0));
     }
@@ -1142,7 +1142,7 @@ public final class PromisesTest extends Check {
             }
         }
         same("work 0", x.work(1, 1, 10), 0);
-        same("work 1", x.work(1, 9, 5), 1);
+        same("work 1", x.work(1, 8, 5), 1);
         same("work 2", x.work(2, 1, 10), 2);
         same("work 3", x.work(1, 2, 10), 3);
         says(37, "by hand");
@@ -1175,7 +1175,7 @@ public final class PromisesTest extends Check {
         y.node(0, 9, 0);
         y.thing(1, 0, 50, 0);
         y.work(1, 1, 1);
-        y.work(1, 9, 1);
+        y.work(1, 8, 1);
         says(37, "by hand");
         same("not both", y.choice(99, 24, 0), 1);
         y.thing(1, 3, 99, 0);

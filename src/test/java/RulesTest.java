@@ -74,6 +74,26 @@ public final class RulesTest {
         }
     }
 
+    /** Methods stay short (some sixty lines): from a head at four or eight blanks to its bracket. */
+    private static void lengths() throws Exception {
+        String[] lines = Files.readString(Path.of("src/main/java/GasTown.java")).split("\n");
+        int methods = 0;
+        for (int i = 0; i < lines.length; i++) {
+            String head = lines[i];
+            int blanks = head.length() - head.stripLeading().length();
+            if ((blanks != 4 && blanks != 8) || !head.endsWith(") {") || head.strip().matches("(if|for|while|switch|\\}).*")) {
+                continue;
+            }
+            int to = i;
+            while (to < lines.length - 1 && !lines[to].equals(" ".repeat(blanks) + "}")) {
+                to++;
+            }
+            check(head.strip() + " has " + (to - i + 1) + " lines", to - i < 60);
+            methods++;
+        }
+        check("methods are found", methods > 100);
+    }
+
     private static int wild(Random random) {
         switch (random.nextInt(8)) {
             case 0:
@@ -115,6 +135,7 @@ public final class RulesTest {
     public static void main(String[] args) throws Exception {
         face();
         words();
+        lengths();
         for (int seed = 0; seed < 500 && wrong < 20; seed++) {
             check("the same calls give other answers", run(seed, 512) == run(seed, 512));
         }

@@ -135,7 +135,7 @@ public final class TraceTest extends Check {
             }
         }
         for (int i = 0; i < 100; i++) {
-            x.right(i % 2, i % 90, 7 * i);
+            x.right(i % 2, i % 90, 7 * i + 1);
         }
         return x;
     }
