@@ -245,7 +245,7 @@ public final class GasTown {
         if (laws.which == NONE) {
             return;
         }
-        for (int n = 1; n < net.nodes; n++) {
+        for (int n = 1; n < net.nodes && n < MOST_NODES; n++) {
             if (net.lastPressure[n] < laws.number && things.anyWantsAt(n)) {
                 fails++;
             }
@@ -396,7 +396,7 @@ public final class GasTown {
     private long gain() {
         books.know(now);
         long sum = books.sold - books.spent - books.fines;
-        for (int reading = 0; reading < books.count; reading++) {
+        for (int reading = 0; reading < books.count && reading < Books.MOST_READINGS; reading++) {
             sum += billOf(reading);
         }
         return sum;
@@ -1608,7 +1608,7 @@ public final class GasTown {
                 return NONE;
             }
             int earlier = NONE;
-            for (int r = 0; r < count; r++) {
+            for (int r = 0; r < count && r < MOST_READINGS; r++) {
                 if (house[r] == t) {
                     earlier = r;
                 }
@@ -1732,30 +1732,40 @@ public final class GasTown {
             mostInAll = works.stock[k] / tons;
             capacity = works.capacity;
             fewest = TOO_MANY;
-            seek(0, 0, works.level);
+            seek(this, 0, 0, works.level);
             return fewest < TOO_MANY;
         }
 
         /** Tries the lesser numbers first, so the first plan of so many charges is the one to keep. */
-        private void seek(int p, int used, int level) {
-            if (used >= fewest) {
+        private static void seek(Night night, int p, int used, int level) {
+            if (used >= night.fewest) {
                 return;
             }
-            if (p >= PLACES) {
-                fewest = used;
-                for (int i = 0; i < PLACES; i++) {
-                    chosen[i] = tried[i];
-                }
+            if (p < 0 || p >= PLACES) {
+                night.keepTried(used);
                 return;
             }
-            int atMost = Math.max(0, Math.min(mostInAll - used, Math.min(most[p], cold[p] - stillBurning(p))));
+            int atMost = night.mostAt(p, used);
             for (int n = 0; n <= atMost; n++) {
-                tried[p] = n;
-                int rest = levelBehind(p, level);
+                night.tried[p] = n;
+                int rest = night.levelBehind(p, level);
                 if (rest >= 0) {
-                    seek(p + 1, used + n, rest);
+                    seek(night, p + 1, used + n, rest);
                 }
             }
+        }
+
+        private void keepTried(int used) {
+            fewest = used;
+            for (int i = 0; i < PLACES; i++) {
+                chosen[i] = tried[i];
+            }
+        }
+
+        /** How many charges can come at a place, so many having come ahead of it; none always can. */
+        private int mostAt(int p, int used) {
+            int free = Math.min(most[p], cold[p] - stillBurning(p));
+            return Math.max(0, Math.min(mostInAll - used, free));
         }
 
         /** The plan's own charges that hold a bench at a place. */
