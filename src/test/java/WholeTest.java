@@ -1025,7 +1025,7 @@ public final class WholeTest {
                 int r = near(1, 9);
                 // never the resistance that it has: the words leave that open
                 r = in(n, 1, y.nodes.size() - 1) && y.nodes.get(n)[1] == r ? r % 9 + 1 : r;
-                int coin = below(3) == 0 ? near(1, 999) : from(1, 40);
+                int coin = below(9) == 0 ? near(1, 999) : from(1, 3);
                 boolean works = in(n, 1, y.nodes.size() - 1) && in(r, 1, 9) && in(coin, 1, 999) && y.works.size() < 8;
                 same("work", x.work(n, r, coin), works ? y.works.size() : NO);
                 if (works) {
@@ -1033,7 +1033,7 @@ public final class WholeTest {
                 }
                 break;
             default:
-                int purse = below(4) == 0 ? near(0, 9999) : from(0, 150);
+                int purse = below(4) == 0 ? near(0, 9999) : from(0, 12);
                 int step = below(4) == 0 ? near(0, 3999) : Math.min(3999, y.now + below(96));
                 int w = near(0, 2);
                 boolean is = in(purse, 0, 9999) && in(step, 0, 3999) && in(w, 0, 2);
